@@ -9,6 +9,7 @@ public final class HousesTest {
         laws();
         byDoorAndHearth();
         byGreaterPart();
+        onlyItsFieldsCount();
         greaterPartTied();
         lawsOfYearsAndUses();
         whoseBounds();
@@ -112,6 +113,28 @@ public final class HousesTest {
         land.agree(0, 2, 100, 9, 9, 2);
         Checks.due("P20 a lesser part", land.whose(3, 3, 100), 1);
         Checks.due("P20 its door", land.whose(3, 1, 100), 2);
+    }
+
+    private static void onlyItsFieldsCount() {
+        BoundWalks land = new BoundWalks();
+        land.parish(0, 0);
+        Checks.box(land, 0, 0, 12, 4);
+        Checks.box(land, 0, 4, 12, 4);
+        Checks.box(land, 0, 8, 12, 4);
+        land.law(0, 0, 2);
+        land.house(3, 6, 4, 2, 3, 7, 3, 7);
+        land.house(3, 8, 4, 3, 3, 8, 3, 8);
+        land.house(3, 3, 1, 3, 3, 3, 3, 3);
+        land.house(3, 3, 1, 2, 3, 3, 3, 3);
+        land.house(3, 7, 1, 2, 3, 8, 3, 8);
+        land.house(3, 7, 1, 3, 3, 7, 3, 7);
+        int[] want = {2, 3, 2, 1, 3, 3};
+        for (int house = 0; house < want.length; house++) {
+            Checks.due("P20 whose(" + house + ", 0, 0)", land.whose(house, 0, 0), want[house]);
+        }
+        land.agree(1, 0, 5, 2, 3, 0);
+        land.agree(1, 0, 5, 4, 3, 0);
+        Checks.due("P20 fields beside a house are not its own", land.whose(3, 0, 5), 1);
     }
 
     private static void greaterPartTied() {

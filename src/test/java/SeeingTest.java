@@ -10,6 +10,7 @@ public final class SeeingTest {
         duesOfLostStones();
         rounds();
         roundsSeeTheOldest();
+        roundsWhereTheFirstStoneWaits();
         roundsOfLostStones();
         roundsChangeNothing();
         roundsBeyondTheLastYear();
@@ -141,6 +142,19 @@ public final class SeeingTest {
         land.years(1);
         Checks.due("P24 stone 1 in 22, then 0 in 23, but 2 not", land.round(30, 1), 23);
         Checks.due("P24 two a year", land.round(30, 2), NONE);
+    }
+
+    private static void roundsWhereTheFirstStoneWaits() {
+        BoundWalks land = new BoundWalks();
+        land.gap(3);
+        land.stone(0, 0);
+        land.stone(1, 1);
+        land.years(1);
+        land.see(0);
+        land.years(2);
+        Checks.due("P24 stone 1 in 3, then 0 in 4", land.round(30, 1), NONE);
+        land.years(1);
+        Checks.due("P24 stone 1 in 4, but 0 not", land.round(30, 1), 4);
     }
 
     private static void roundsOfLostStones() {

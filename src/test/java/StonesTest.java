@@ -206,6 +206,7 @@ public final class StonesTest {
 
     private static void remembers() {
         BoundWalks land = new BoundWalks();
+        Checks.due("P17 no witness", land.remember(7, 7), 0);
         Checks.due("P17 no witness", land.remember(100, 100), 0);
         land.witness(100);
         land.witness(103);

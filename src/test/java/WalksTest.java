@@ -322,5 +322,9 @@ public final class WalksTest {
         for (int wild : WILD) {
             Checks.due("P10 wild", land.quarrel(wild), BAD);
         }
+        BoundWalks all = new BoundWalks();
+        Checks.box(all, 0, 0, 12, 12);
+        Checks.box(all, 0, 0, 12, 12);
+        Checks.due("P10 every field", all.quarrel(0), 144);
     }
 }
