@@ -5,24 +5,23 @@ import java.lang.reflect.Method;
 import java.lang.reflect.Modifier;
 import java.nio.file.Files;
 import java.nio.file.Path;
-import java.util.Arrays;
 import java.util.Set;
+import java.util.StringJoiner;
 import java.util.TreeSet;
 import java.util.regex.Matcher;
 import java.util.regex.Pattern;
 
 /** The document's public face, and the rules of LANGUAGE.md that can be seen from outside. */
 public final class FaceTest {
-    private static final Set<String> FACE = new TreeSet<>(Arrays.asList("parish 2", "leg 4", "unleg 1", "length 2",
-        "area 1", "claims 2", "agree 6", "owner 3", "quarrel 1", "years 1", "stone 2", "moved 4", "lost 2", "where 3",
-        "witness 1", "remember 2", "house 8", "law 3", "whose 3", "see 1", "gap 1", "due 0", "round 2", "count 1"));
-    private static final Set<String> CONSTANTS = new TreeSet<>(Arrays.asList("NONE", "BAD", "NOT", "FULL"));
+    private static final Path DOCUMENT = Path.of("../shared/DOC.md");
+    private static final int CALLS = 24;
+    private static final Set<String> NAMES = new TreeSet<>();
     private static final String[] FORBIDDEN = {"throw", "throws", "try", "catch", "synchronized", "assert", "import",
         "package", "->", "::", "@", "Exact", "System", "Thread", "Object", "hashCode", "toString", "protected"};
     private static final int MOST_PARAMETERS = 7, MOST_LINES = 60, MOST_FIELDS = 20, MOST_CLASSES = 12;
 
-    public static void main(String[] args) throws IOException {
-        face();
+    public static void main(String[] args) throws IOException, IllegalAccessException {
+        face(Files.readString(DOCUMENT));
         for (Class<?> inside : BoundWalks.class.getDeclaredClasses()) {
             nested(inside);
         }
@@ -32,29 +31,62 @@ public final class FaceTest {
         Checks.end("FaceTest");
     }
 
-    private static void face() {
+    /** Each public member, written as the document writes it. */
+    private static void face(String document) throws IllegalAccessException {
         Checks.holds("the class is public and final", BoundWalks.class.getModifiers() == (Modifier.PUBLIC | Modifier.FINAL));
-        Constructor<?>[] constructors = BoundWalks.class.getDeclaredConstructors();
-        Checks.holds("one public constructor without parameters", constructors.length == 1
-            && constructors[0].getParameterCount() == 0 && Modifier.isPublic(constructors[0].getModifiers()));
+        Set<String> told = new TreeSet<>();
+        Matcher line = Pattern.compile("\\n    (public [^;]*);").matcher(document);
+        while (line.find()) {
+            told.addAll(membersOf(line.group(1)));
+        }
         Set<String> seen = new TreeSet<>();
+        for (Constructor<?> constructor : BoundWalks.class.getDeclaredConstructors()) {
+            seen.add(written(constructor.getModifiers(), "BoundWalks", constructor.getParameterTypes()));
+        }
         for (Method method : BoundWalks.class.getDeclaredMethods()) {
             if (!Modifier.isPrivate(method.getModifiers())) {
-                seen.add(method.getName() + " " + method.getParameterCount());
-                Checks.holds(method + " is public, of the object, and answers int",
-                    method.getModifiers() == Modifier.PUBLIC && method.getReturnType() == int.class);
+                NAMES.add(method.getName());
+                String head = method.getReturnType() + " " + method.getName();
+                seen.add(written(method.getModifiers(), head, method.getParameterTypes()));
             }
         }
-        Checks.holds("the face " + seen, seen.equals(FACE));
+        seen.addAll(constants());
+        Checks.due("the document's calls", NAMES.size(), CALLS);
+        Checks.holds("the face " + seen + " as told " + told, seen.equals(told));
+    }
+
+    /** A line of the document's face, without the parameters' names; a line of constants is several members. */
+    private static Set<String> membersOf(String line) {
+        Set<String> members = new TreeSet<>();
+        int constants = line.indexOf(" int NONE");
+        if (constants < 0) {
+            members.add(line.replaceAll("(int) \\w+(?=[,)])", "$1"));
+        } else {
+            for (String constant : line.substring(constants + " int ".length()).split(", ")) {
+                members.add(line.substring(0, constants) + " int " + constant);
+            }
+        }
+        return members;
+    }
+
+    private static String written(int modifiers, String head, Class<?>[] parameters) {
+        StringJoiner list = new StringJoiner(", ", "(", ")");
+        for (Class<?> parameter : parameters) {
+            list.add(parameter.getName());
+        }
+        return Modifier.toString(modifiers) + " " + head + list;
+    }
+
+    private static Set<String> constants() throws IllegalAccessException {
         Set<String> constants = new TreeSet<>();
         for (Field field : BoundWalks.class.getDeclaredFields()) {
             if (!Modifier.isPrivate(field.getModifiers())) {
-                constants.add(field.getName());
-                Checks.holds(field + " is a constant", field.getType() == int.class
-                    && field.getModifiers() == (Modifier.PUBLIC | Modifier.STATIC | Modifier.FINAL));
+                Object value = Modifier.isStatic(field.getModifiers()) ? field.get(null) : "no constant";
+                constants.add(Modifier.toString(field.getModifiers()) + " " + field.getType() + " " + field.getName()
+                    + " = " + value);
             }
         }
-        Checks.holds("the constants " + constants, constants.equals(CONSTANTS));
+        return constants;
     }
 
     private static void nested(Class<?> inside) {
@@ -87,7 +119,7 @@ public final class FaceTest {
     }
 
     private static boolean isOfTheFace(String name) {
-        return FACE.stream().anyMatch(entry -> entry.startsWith(name + " "));
+        return NAMES.contains(name);
     }
 
     private static void source(String text) {
