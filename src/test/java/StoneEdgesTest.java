@@ -257,6 +257,11 @@ public final class StoneEdgesTest {
         Checks.due("y its year, k later", land.where(0, 20, 30), 607);
         Checks.due("y later, k its year", land.where(0, 30, 20), 405);
         Checks.due("the ends", land.where(0, 0, 0), NONE);
+        Checks.due("it is seen", land.see(0), 10);
+        Checks.due("seen behind y and k, but not set", land.where(0, 20, 20), 405);
+        Checks.due("seen behind y, but not set", land.where(0, 20, 30), 607);
+        Checks.due("seen behind k, but not set", land.where(0, 30, 20), 405);
+        Checks.due("told of a year before it was seen", land.lost(0, 20), 1);
     }
 
     // ---- witnesses
